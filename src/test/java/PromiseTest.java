@@ -101,6 +101,10 @@ public final class PromiseTest {
         }
         due("3 too many", x.feed(0, 0, 0, 0, 0), -1);
         due("3 stays", x.count(6), 260);
+        due("4 no such n", x.law(241), -1);
+        due("5 no such n", x.routine(0, 61), -1);
+        due("6 no such n", x.ledger(201), -1);
+        due("3 stays", x.count(6), 260);
         due("3 the highest first", x.stairs(4, 0), 13);
         due("3 empty then", x.count(6), 0);
         x.feed(0, 0, 0, 0, 0x00010200);
@@ -303,6 +307,12 @@ public final class PromiseTest {
         due("law m without what is paid", x.costs(1, 0), 600);
         law(x, "p9+t(1=1)");
         due("law t", x.costs(1, 0), 600);
+        x.person(0, 999999999, 0);
+        x.days(60);
+        x.days(38);
+        due("law t of day 99", x.costs(0, 0), 60 * 108);
+        x.days(1);
+        due("law t of day 100", x.costs(0, 0), 540);
     }
 
     private static void termDay() {
@@ -537,6 +547,17 @@ public final class PromiseTest {
         due("15 not told", x.hiccups(16, 0), -1);
         due("15 not told", x.hiccups(-1, 0), -1);
         due("15 no what", x.hiccups(1, 2), -1);
+        // Each passes them on an hour of the day earlier than he gets them: a day goes by each time.
+        routine(x, 0, "5w" + "o" + "9(2w)");
+        routine(x, 1, "4r" + "2o" + "9(2r)");
+        routine(x, 2, "3l" + "2o" + "9(2l)l");
+        routine(x, 3, "3f" + "o" + "9(2f)2f");
+        due("15 day by day", x.hiccups(1, 1), 6 + 23 + 23);
+        due("15 day by day", x.hiccups(1, 0), 15);
+        due("15 day by day, the last's sleep is his own", x.hiccups(8, 0), 15);
+        routine(x, 0, "9(2w)6w");
+        routine(x, 1, "9(2r)5rw");
+        routine(x, 2, "r9(2l)5l");
         law(x, "x(k=1)");
         x.days(1);
         due("15 the dead pass nothing on", x.hiccups(3, 0), 1);
@@ -579,6 +600,10 @@ public final class PromiseTest {
         due("19 later", x.alike(0, 1, 1), 3);
         due("19 then", x.alike(0, 1, 2), 24);
         due("19 the other way", x.alike(1, 0, 1), 21);
+        routine(x, 2, "4s3w");
+        due("19 an hour later", x.alike(0, 2, 1), 1);
+        due("19 an hour earlier", x.alike(2, 0, 1), 23);
+        routine(x, 2, "s");
         due("19 the least of like ones", x.alike(0, 2, 1), 0);
         due("19 the least of like ones", x.alike(0, 2, 2), 21);
         due("19 the same", x.alike(1, 1, 0), -1);
@@ -752,6 +777,7 @@ public final class PromiseTest {
     private static void promise25AtOnce() {
         due("25 first", atOnce(0, 0, 1, 3, 2, 5), 7);
         due("25 how many", atOnce(22, 1, 1, 3, 2, 5), 2);
+        due("25 up to the first", atOnce(7, 1, 1, 3, 2, 5), 1);
         due("25 up to it", atOnce(21, 1, 1, 3, 2, 5), 1);
         due("25 before it", atOnce(6, 1, 1, 3, 2, 5), 0);
         due("25 none", atOnce(9, 0, 0, 2, 1, 2), -2);
