@@ -1,5 +1,3 @@
-import java.nio.charset.StandardCharsets;
-
 /** At least one test for each promise of the document, by its number; what is due is reckoned by hand. */
 public final class PromiseTest {
     private static int wrong = 0;
@@ -15,51 +13,6 @@ public final class PromiseTest {
 
     private static void due(String what, boolean got, boolean want) {
         due(what, got ? 1 : 0, want ? 1 : 0);
-    }
-
-    /** Bytes on the tape, as few feeds as can hold them, 0 behind them. */
-    static void feed(StruckBeats x, int... bytes) {
-        for (int at = 0; at < bytes.length; at += 20) {
-            int[] words = new int[5];
-            for (int i = 0; i < 20; i++) {
-                int b = at + i < bytes.length ? bytes[at + i] : 0;
-                words[i / 4] = words[i / 4] << 8 | b & 255;
-            }
-            x.feed(words[0], words[1], words[2], words[3], words[4]);
-        }
-    }
-
-    static void feed(StruckBeats x, String text) {
-        byte[] bytes = text.getBytes(StandardCharsets.ISO_8859_1);
-        int[] numbers = new int[bytes.length];
-        for (int i = 0; i < bytes.length; i++) {
-            numbers[i] = bytes[i] & 255;
-        }
-        feed(x, numbers);
-    }
-
-    private static int law(StruckBeats x, String text) {
-        feed(x, text);
-        return x.law(text.length());
-    }
-
-    private static int routine(StruckBeats x, int p, String text) {
-        feed(x, text);
-        return x.routine(p, text.length());
-    }
-
-    private static int ledger(StruckBeats x, String text) {
-        feed(x, text);
-        return x.ledger(text.length());
-    }
-
-    /** A city of so many, each of so many beats. */
-    private static StruckBeats city(int people, int beats) {
-        StruckBeats x = new StruckBeats();
-        for (int p = 0; p < people; p++) {
-            x.person(p, beats, 0);
-        }
-        return x;
     }
 
     private static void promise01New() {
@@ -83,7 +36,7 @@ public final class PromiseTest {
             due("2 bad", x.person(b[0], b[1], b[2]), false);
         }
         due("2 told", x.count(1), 0x8001);
-        routine(x, 0, "3r");
+        Cities.routine(x, 0, "3r");
         due("2 again", x.person(0, 77, 5), true);
         due("2 beats", x.personIs(0, 0), 77);
         due("2 age", x.personIs(0, 1), 5);
@@ -112,7 +65,7 @@ public final class PromiseTest {
     }
 
     private static void promise04Law() {
-        StruckBeats x = city(2, 1000000);
+        StruckBeats x = Cities.of(2, 1000000);
         due("4 no n", x.law(0), -1);
         x.feed(0, 0, 0, 0, 0);
         due("4 not so many", x.law(21), -1);
@@ -120,9 +73,9 @@ public final class PromiseTest {
         due("4 the tape stays", x.count(6), 20);
         due("4 fault", x.law(20), -1000);
         due("4 empty then", x.count(6), 0);
-        due("4 rules", law(x, "p5(k=0);x(a>99);i3(m=1)"), 3);
-        due("4 in place", law(x, "p7(1=1)"), 1);
-        due("4 fault", law(x, "p8(1=1"), -1006);
+        due("4 rules", Cities.law(x, "p5(k=0);x(a>99);i3(m=1)"), 3);
+        due("4 in place", Cities.law(x, "p7(1=1)"), 1);
+        due("4 fault", Cities.law(x, "p8(1=1"), -1006);
         due("4 the one before stays", x.costs(0, 0), 420);
         due("4 rules stay", x.count(5), 1);
         String[] texts = {
@@ -144,24 +97,24 @@ public final class PromiseTest {
             1, -5012, -5013,
         };
         for (int i = 1; i < texts.length; i++) {
-            due("4 " + texts[i], law(x, texts[i]), want[i]);
+            due("4 " + texts[i], Cities.law(x, texts[i]), want[i]);
         }
         String many = "x(1=2);".repeat(16);
-        due("4 sixteen", law(x, many.substring(0, 111)), 16);
-        due("4 seventeen", law(x, many + "p"), -4112);
-        due("4 seventeen i", law(x, many + "i!"), -4112);
-        due("4 no seventeenth", law(x, many + "q"), -1112);
-        due("4 its end", law(x, many), -1112);
+        due("4 sixteen", Cities.law(x, many.substring(0, 111)), 16);
+        due("4 seventeen", Cities.law(x, many + "p"), -4112);
+        due("4 seventeen i", Cities.law(x, many + "i!"), -4112);
+        due("4 no seventeenth", Cities.law(x, many + "q"), -1112);
+        due("4 its end", Cities.law(x, many), -1112);
         due("4 sixteen stay", x.count(5), 16);
         String longest = "p1" + "+1".repeat(116) + "(1=1)";
         due("4 240 bytes", longest.length() + 1, 240);
-        due("4 long", law(x, longest + ";"), -1240);
-        due("4 long", law(x, "p11" + longest.substring(2)), 1);
+        due("4 long", Cities.law(x, longest + ";"), -1240);
+        due("4 long", Cities.law(x, "p11" + longest.substring(2)), 1);
         due("4 long E", x.costs(0, 0), 60 * 127);
     }
 
     private static void promise05Routine() {
-        StruckBeats x = city(2, 1000);
+        StruckBeats x = Cities.of(2, 1000);
         x.feed(0, 0, 0, 0, 0);
         int[][] bad = {{-1, 1}, {16, 1}, {0, 0}, {0, -1}, {0, 21}, {0, 61}};
         for (int[] b : bad) {
@@ -183,23 +136,23 @@ public final class PromiseTest {
             -5005, -6001, -1004, 15,
         };
         for (int i = 0; i < texts.length; i++) {
-            due("5 " + texts[i], routine(x, 0, texts[i]), want[i]);
+            due("5 " + texts[i], Cities.routine(x, 0, texts[i]), want[i]);
         }
         due("5 a fault, the one before stays", x.personIs(0, 3), 15);
-        due("5 of one not told", routine(x, 9, "2s"), 2);
+        due("5 of one not told", Cities.routine(x, 9, "2s"), 2);
         due("5 not told still", x.personIs(9, 3), -1000000000);
-        law(x, "p1+d(1=1)");
+        Cities.law(x, "p1+d(1=1)");
         int[] does = {0, 1, 2, 3, 2, 3, 4, 5, 6, 4, 5, 6, 4, 5, 6, 0};
         for (int hour = 0; hour < does.length; hour++) {
             due("5 hour " + hour, x.costs(0, hour), 60 * (1 + does[hour]));
         }
-        routine(x, 0, "2r");
+        Cities.routine(x, 0, "2r");
         due("5 slept behind it", x.costs(0, 2), 60);
-        due("5 sixty", routine(x, 0, "(s)".repeat(20)), 20);
+        due("5 sixty", Cities.routine(x, 0, "(s)".repeat(20)), 20);
     }
 
     private static void promise06Ledger() {
-        StruckBeats x = city(3, 1000);
+        StruckBeats x = Cities.of(3, 1000);
         x.feed(0, 0, 0, 0, 0);
         due("6 no n", x.ledger(0), -1);
         due("6 not so many", x.ledger(21), -1);
@@ -220,33 +173,33 @@ public final class PromiseTest {
             -6007, -7005, -7007, -1004, -1004,
         };
         for (int i = 0; i < texts.length; i++) {
-            due("6 " + texts[i], ledger(x, texts[i]), want[i]);
+            due("6 " + texts[i], Cities.ledger(x, texts[i]), want[i]);
         }
         due("6 all stay", x.count(4), 2);
         String many = "a>b1;".repeat(24);
-        due("6 24", ledger(x, many.substring(0, 119)), 24);
-        due("6 a 25th", ledger(x, many + "a"), -4120);
-        due("6 a 25th not told", ledger(x, many + "d>a1"), -4120);
-        due("6 a 25th that cannot stand", ledger(x, many + "q"), -1120);
+        due("6 24", Cities.ledger(x, many.substring(0, 119)), 24);
+        due("6 a 25th", Cities.ledger(x, many + "a"), -4120);
+        due("6 a 25th not told", Cities.ledger(x, many + "d>a1"), -4120);
+        due("6 a 25th that cannot stand", Cities.ledger(x, many + "q"), -1120);
         due("6 beats are as they were", x.personIs(0, 0), 1000);
         x.days(1);
-        due("6 the dead are told", ledger(x, "a>b1"), 1);
+        due("6 the dead are told", Cities.ledger(x, "a>b1"), 1);
     }
 
     private static void promise07Days() {
-        StruckBeats x = city(2, 100000);
+        StruckBeats x = Cities.of(2, 100000);
         due("7 none", x.days(0), -1);
         due("7 too many", x.days(61), -1);
         due("7 nobody", x.days(1), 0);
         due("7 beats", x.personIs(0, 0), 13600);
-        due("7 draws of both", x.count(7), draws(1, 48));
+        due("7 draws of both", x.count(7), Cities.drawn(1, 48));
         due("7 both", x.days(60), 2);
         due("7 the day", x.count(0), 61);
         due("7 age of who died", x.personIs(0, 1), 1);
-        due("7 no draws for the dead", x.count(7), draws(1, 48 + 8));
+        due("7 no draws for the dead", x.count(7), Cities.drawn(1, 48 + 8));
 
-        x = city(1, 999999999);
-        law(x, "p1(1=1)");
+        x = Cities.of(1, 999999999);
+        Cities.law(x, "p1(1=1)");
         for (int i = 0; i < 166; i++) {
             x.days(60);
         }
@@ -261,17 +214,9 @@ public final class PromiseTest {
         due("7 age", x.personIs(0, 1), 9999);
     }
 
-    private static int draws(int seed, int n) {
-        int x = seed;
-        for (int i = 0; i < n; i++) {
-            x = (25173 * x + 13849) % 65536;
-        }
-        return x;
-    }
-
     /** What the law says, seen through one hour or day. */
     private static void termLaw() {
-        StruckBeats x = city(2, 500000);
+        StruckBeats x = Cities.of(2, 500000);
         x.person(0, 500999, 729);
         x.person(1, 500000, 730);
         String[][] costs = {
@@ -289,23 +234,23 @@ public final class PromiseTest {
             {"p9+n+w+m+t(1=1)", "540"}, {"x(1=1)", "3600"}, {"i9(1=1)", "3600"},
         };
         for (String[] c : costs) {
-            int rules = law(x, c[0]);
+            int rules = Cities.law(x, c[0]);
             int due = Integer.parseInt(c[1]);
             due("law " + c[0], due < 0 ? rules : x.costs(0, 0), due);
         }
-        law(x, "p9+k(1=1)");
+        Cities.law(x, "p9+k(1=1)");
         due("law k", x.costs(1, 0), 600);
-        law(x, "p9+a(1=1)");
+        Cities.law(x, "p9+a(1=1)");
         due("law a of 729", x.costs(0, 0), 600);
         due("law a of 730", x.costs(1, 0), 660);
-        law(x, "p9+h(1=1)");
+        Cities.law(x, "p9+h(1=1)");
         due("law h", x.costs(0, 23), 1920);
-        ledger(x, "a>b1/1;a>b2;b>a3");
-        law(x, "p9+m(1=1)");
+        Cities.ledger(x, "a>b1/1;a>b2;b>a3");
+        Cities.law(x, "p9+m(1=1)");
         due("law m", x.costs(1, 0), 660);
         x.days(1);
         due("law m without what is paid", x.costs(1, 0), 600);
-        law(x, "p9+t(1=1)");
+        Cities.law(x, "p9+t(1=1)");
         due("law t", x.costs(1, 0), 600);
         x.person(0, 999999999, 0);
         x.days(60);
@@ -316,66 +261,66 @@ public final class PromiseTest {
     }
 
     private static void termDay() {
-        StruckBeats x = city(3, 1000000);
-        routine(x, 0, "2w");
-        routine(x, 1, "w");
-        law(x, "p10*n+1(1=1)");
+        StruckBeats x = Cities.of(3, 1000000);
+        Cities.routine(x, 0, "2w");
+        Cities.routine(x, 1, "w");
+        Cities.law(x, "p10*n+1(1=1)");
         x.days(1);
         // Hour 0: two walk; hour 1: the others sleep; then all three sleep.
         due("day n of the first", x.personIs(0, 0), 1000000 - 60 * (11 + 1 + 22 * 21));
         due("day n of the third", x.personIs(2, 0), 1000000 - 60 * (1 + 11 + 22 * 21));
 
-        x = city(3, 1000000);
-        law(x, "x(k=0&h=3);p10*n+1(1=1)");
+        x = Cities.of(3, 1000000);
+        Cities.law(x, "x(k=0&h=3);p10*n+1(1=1)");
         x.days(1);
         due("day n by then", x.personIs(1, 0), 1000000 - 60 * (3 * 21 + 21 * 11));
         due("day parish", x.count(3), 1000000 - 60 * 3 * 21);
 
-        x = city(1, 1000000);
-        law(x, "p1+w(1=1)");
+        x = Cities.of(1, 1000000);
+        Cities.law(x, "p1+w(1=1)");
         int drawn = 1;
         int cost = 0;
         for (int hour = 0; hour < 24; hour++) {
-            drawn = draws(drawn, 1);
+            drawn = Cities.drawn(drawn, 1);
             cost += 60 * (1 + drawn % 10);
         }
         x.days(1);
         due("day w", x.personIs(0, 0), 1000000 - cost);
 
-        x = city(1, 24 * 3600);
+        x = Cities.of(1, 24 * 3600);
         due("day to 0", x.days(1), 1);
-        x = city(1, 24 * 3600 + 1);
+        x = Cities.of(1, 24 * 3600 + 1);
         due("day to 1", x.days(1), 0);
         due("day one is left", x.personIs(0, 0), 1);
 
-        x = city(3, 999999999);
-        law(x, "x(k<2);p1(1=1)");
+        x = Cities.of(3, 999999999);
+        Cities.law(x, "x(k<2);p1(1=1)");
         x.days(1);
         due("day the parish has its bound", x.count(3), 999999999);
 
-        x = city(3, 10000);
-        law(x, "x(k=2);p1(1=1);i9000+d+h+n+w(k=0);i9000(k=1)");
-        routine(x, 0, "9(2s)5so");
+        x = Cities.of(3, 10000);
+        Cities.law(x, "x(k=2);p1(1=1);i9000+d+h+n+w(k=0);i9000(k=1)");
+        Cities.routine(x, 0, "9(2s)5so");
         x.days(1);
         due("day gifts by numbers", x.personIs(0, 0), 10000 - 1440 + 9030);
         due("day no more than it has", x.personIs(1, 0), 10000 - 1440 + 970);
         due("day nothing is left", x.count(3), 0);
 
-        x = city(2, 999999999);
-        law(x, "x(k=1);p1(1=1);i9999(1=1)");
+        x = Cities.of(2, 999999999);
+        Cities.law(x, "x(k=1);p1(1=1);i9999(1=1)");
         x.days(1);
         due("day no more than to the bound", x.personIs(0, 0), 999999999);
         due("day the rest stays", x.count(3), 999999999 - 1440);
 
-        x = city(2, 2000);
-        law(x, "p1(1=1)");
-        ledger(x, "a>b50@1/9999;b>a900@99");
+        x = Cities.of(2, 2000);
+        Cities.law(x, "p1(1=1)");
+        Cities.ledger(x, "a>b50@1/9999;b>a900@99");
         x.days(1);
         due("day paid with what one has", x.personIs(1, 0), 509);
         due("day rounded up", x.personIs(0, 0), 611);
         due("day no more than is due", x.loanIs(0, 5), 0);
         due("day grown", x.loanIs(1, 5), 1791);
-        ledger(x, "a>b99999/9999");
+        Cities.ledger(x, "a>b99999/9999");
         x.person(1, 1441, 0);
         x.person(0, 999999999, 0);
         x.days(1);
@@ -384,25 +329,25 @@ public final class PromiseTest {
         x.person(0, 999999999, 0);
         x.days(1);
         due("day the lender's bound", x.personIs(0, 0), 999999999);
-        ledger(x, "a>b999999@99;b>a5@50");
+        Cities.ledger(x, "a>b999999@99;b>a5@50");
         for (int i = 0; i < 5; i++) {
             x.days(1);
         }
         due("day due has its bound", x.loanIs(0, 5), 9999999);
-        law(x, "x(k=0)");
+        Cities.law(x, "x(k=0)");
         x.days(1);
         due("day of the dead it stays", x.loanIs(1, 5), 5 + 3 + 4 + 6 + 9 + 14);
 
-        x = city(1, 999999999);
+        x = Cities.of(1, 999999999);
         x.person(0, 999999999, 99998);
         x.days(2);
         due("day the age has its bound", x.personIs(0, 1), 99999);
     }
 
     private static void promise08Tried() {
-        StruckBeats x = city(2, 100000);
-        ledger(x, "a>b100@10/20");
-        law(x, "p60+w(1=1)");
+        StruckBeats x = Cities.of(2, 100000);
+        Cities.ledger(x, "a>b100@10/20");
+        Cities.law(x, "p60+w(1=1)");
         int[] wants = {0, 1, 2, 100, 101, 200};
         int[] got = new int[wants.length];
         for (int i = 0; i < wants.length; i++) {
@@ -428,8 +373,8 @@ public final class PromiseTest {
     }
 
     private static void promise09PersonIs() {
-        StruckBeats x = city(2, 100);
-        ledger(x, "a>b7;b>a5;a>b1");
+        StruckBeats x = Cities.of(2, 100);
+        Cities.ledger(x, "a>b7;b>a5;a>b1");
         due("9 net", x.personIs(0, 4), 3);
         due("9 net", x.personIs(1, 4), -3);
         int[][] bad = {{-1, 0}, {2, 0}, {16, 0}, {0, -1}, {0, 5}};
@@ -445,8 +390,8 @@ public final class PromiseTest {
     }
 
     private static void promise10LoanIs() {
-        StruckBeats x = city(3, 100);
-        ledger(x, "c>b12@34/56;a>c7");
+        StruckBeats x = Cities.of(3, 100);
+        Cities.ledger(x, "c>b12@34/56;a>c7");
         int[] parts = {2, 1, 12, 34, 56, 12};
         int[] others = {0, 2, 7, 0, 0, 7};
         for (int what = 0; what < 6; what++) {
@@ -460,7 +405,7 @@ public final class PromiseTest {
     }
 
     private static void promise11Dies() {
-        StruckBeats x = city(2, 3 * 86400);
+        StruckBeats x = Cities.of(2, 3 * 86400);
         due("11 behind", x.dies(0, 60), 3);
         due("11 the last of them", x.dies(0, 3), 3);
         due("11 not in these", x.dies(0, 2), -2);
@@ -474,9 +419,9 @@ public final class PromiseTest {
     }
 
     private static void promise12Costs() {
-        StruckBeats x = city(2, 1000000);
-        routine(x, 0, "2r3w");
-        law(x, "x(1=1);p100+h(d=3);p10*n+5(d=2)");
+        StruckBeats x = Cities.of(2, 1000000);
+        Cities.routine(x, 0, "2r3w");
+        Cities.law(x, "x(1=1);p100+h(d=3);p10*n+5(d=2)");
         due("12 hour 1", x.costs(0, 1), 6060);
         due("12 hour 2", x.costs(0, 2), 300);
         due("12 hour 23", x.costs(0, 23), 3600);
@@ -490,8 +435,8 @@ public final class PromiseTest {
     }
 
     private static void promise13And14Loans() {
-        StruckBeats x = city(2, 100);
-        ledger(x, "a>b100/30;a>b100@10/10;a>b100@10/11;a>b1/1;a>b3651/1;a>b3650/1");
+        StruckBeats x = Cities.of(2, 100);
+        Cities.ledger(x, "a>b100/30;a>b100@10/10;a>b100@10/11;a>b1/1;a>b3651/1;a>b3650/1");
         due("13", x.paidOff(0), 4);
         due("13 never", x.paidOff(1), -2);
         due("13 at last", x.paidOff(2), 30);
@@ -512,7 +457,7 @@ public final class PromiseTest {
         due("13 of the dead", x.paidOff(0), 4);
         x.person(0, 100000, 0);
         x.person(1, 100000, 0);
-        ledger(x, "a>b1/1");
+        Cities.ledger(x, "a>b1/1");
         x.days(1);
         due("13 it is", x.paidOff(0), 0);
     }
@@ -525,17 +470,17 @@ public final class PromiseTest {
             due -= Math.min(11, due);
             day++;
         }
-        StruckBeats x = city(2, 100);
-        ledger(x, "a>b100@10/11");
+        StruckBeats x = Cities.of(2, 100);
+        Cities.ledger(x, "a>b100@10/11");
         due("13 day by day", x.paidOff(0), day);
     }
 
     private static void promise15Hiccups() {
-        StruckBeats x = city(4, 1000000);
-        routine(x, 0, "9(2w)6w");
-        routine(x, 1, "9(2r)5rw");
-        routine(x, 2, "r9(2l)5l");
-        routine(x, 3, "9(2f)6f");
+        StruckBeats x = Cities.of(4, 1000000);
+        Cities.routine(x, 0, "9(2w)6w");
+        Cities.routine(x, 1, "9(2r)5rw");
+        Cities.routine(x, 2, "r9(2l)5l");
+        Cities.routine(x, 3, "9(2f)6f");
         due("15 in the end", x.hiccups(1, 0), 7);
         due("15 the second day", x.hiccups(1, 1), 25);
         due("15 from the third on", x.hiccups(4, 0), 7);
@@ -548,24 +493,24 @@ public final class PromiseTest {
         due("15 not told", x.hiccups(-1, 0), -1);
         due("15 no what", x.hiccups(1, 2), -1);
         // Each passes them on an hour of the day earlier than he gets them: a day goes by each time.
-        routine(x, 0, "5w" + "o" + "9(2w)");
-        routine(x, 1, "4r" + "2o" + "9(2r)");
-        routine(x, 2, "3l" + "2o" + "9(2l)l");
-        routine(x, 3, "3f" + "o" + "9(2f)2f");
+        Cities.routine(x, 0, "5w" + "o" + "9(2w)");
+        Cities.routine(x, 1, "4r" + "2o" + "9(2r)");
+        Cities.routine(x, 2, "3l" + "2o" + "9(2l)l");
+        Cities.routine(x, 3, "3f" + "o" + "9(2f)2f");
         due("15 day by day", x.hiccups(1, 1), 6 + 23 + 23);
         due("15 day by day", x.hiccups(1, 0), 15);
         due("15 day by day, the last's sleep is his own", x.hiccups(8, 0), 15);
-        routine(x, 0, "9(2w)6w");
-        routine(x, 1, "9(2r)5rw");
-        routine(x, 2, "r9(2l)5l");
-        law(x, "x(k=1)");
+        Cities.routine(x, 0, "9(2w)6w");
+        Cities.routine(x, 1, "9(2r)5rw");
+        Cities.routine(x, 2, "r9(2l)5l");
+        Cities.law(x, "x(k=1)");
         x.days(1);
         due("15 the dead pass nothing on", x.hiccups(3, 0), 1);
         due("15 nor get them", x.hiccups(1, 1), 0);
     }
 
     private static void promise16To18() {
-        StruckBeats x = city(3, 86400 * 3 - 1);
+        StruckBeats x = Cities.of(3, 86400 * 3 - 1);
         x.person(1, 86400 * 3, 0);
         x.person(2, 86400 * 4 - 1, 0);
         due("16 less one", x.left(0), 2);
@@ -577,15 +522,15 @@ public final class PromiseTest {
         due("18 all together", x.stillest(1), 3 * 3600);
         due("18 no what", x.stillest(2), -1);
         due("18 no what", x.stillest(-1), -1);
-        law(x, "p9(h=7|h=9);p8(h=9)");
+        Cities.law(x, "p9(h=7|h=9);p8(h=9)");
         due("18 which", x.stillest(0), 7);
         due("18 how much", x.stillest(1), 3 * 540);
-        law(x, "x(k=1)");
+        Cities.law(x, "x(k=1)");
         x.days(1);
         due("16 dead", x.left(1), -1);
         due("17 living", x.longest(), 2);
         due("18 living", x.stillest(1), 2 * 3600);
-        law(x, "x(1=1)");
+        Cities.law(x, "x(1=1)");
         x.days(1);
         due("17 nobody", x.longest(), -2);
         due("18 nobody", x.stillest(0), 0);
@@ -593,17 +538,17 @@ public final class PromiseTest {
     }
 
     private static void promise19Alike() {
-        StruckBeats x = city(3, 100);
-        routine(x, 0, "5s3w");
-        routine(x, 1, "2s3w");
+        StruckBeats x = Cities.of(3, 100);
+        Cities.routine(x, 0, "5s3w");
+        Cities.routine(x, 1, "2s3w");
         due("19 hours", x.alike(0, 1, 0), 24 - 6);
         due("19 later", x.alike(0, 1, 1), 3);
         due("19 then", x.alike(0, 1, 2), 24);
         due("19 the other way", x.alike(1, 0, 1), 21);
-        routine(x, 2, "4s3w");
+        Cities.routine(x, 2, "4s3w");
         due("19 an hour later", x.alike(0, 2, 1), 1);
         due("19 an hour earlier", x.alike(2, 0, 1), 23);
-        routine(x, 2, "s");
+        Cities.routine(x, 2, "s");
         due("19 the least of like ones", x.alike(0, 2, 1), 0);
         due("19 the least of like ones", x.alike(0, 2, 2), 21);
         due("19 the same", x.alike(1, 1, 0), -1);
@@ -615,18 +560,18 @@ public final class PromiseTest {
     }
 
     private static void promise20Rings() {
-        StruckBeats x = city(16, 1000000);
-        ledger(x, "a>b1;b>c1;c>a1;d>e1;e>f1;f>d1");
+        StruckBeats x = Cities.of(16, 1000000);
+        Cities.ledger(x, "a>b1;b>c1;c>a1;d>e1;e>f1;f>d1");
         due("20 fewest", x.rings(0), 3);
         due("20 least bits", x.rings(1), 7);
-        ledger(x, "a>p1;p>a1;b>c1;c>b1");
+        Cities.ledger(x, "a>p1;p>a1;b>c1;c>b1");
         due("20 least bits", x.rings(1), 6);
-        ledger(x, "a>b1;b>c1;c>d1;d>a1;b>a1/1;a>c1");
+        Cities.ledger(x, "a>b1;b>c1;c>d1;d>a1;b>a1/1;a>c1");
         due("20 two", x.rings(0), 2);
         x.days(1);
         due("20 three when one is paid", x.rings(0), 3);
         due("20 who", x.rings(1), 13);
-        ledger(x, "a>b1;b>c1;a>c1;a>b1");
+        Cities.ledger(x, "a>b1;b>c1;a>c1;a>b1");
         due("20 none", x.rings(0), -2);
         due("20 none", x.rings(1), -2);
         due("20 no what", x.rings(2), -1);
@@ -635,7 +580,7 @@ public final class PromiseTest {
         for (int p = 0; p < 15; p++) {
             all.append(';').append((char) ('a' + p)).append('>').append((char) ('b' + p)).append('1');
         }
-        ledger(x, all.toString());
+        Cities.ledger(x, all.toString());
         due("20 all", x.rings(0), 16);
         due("20 all", x.rings(1), 65535);
     }
@@ -647,7 +592,7 @@ public final class PromiseTest {
             bytes[2 * i] = nets[i] + 32768 >> 8;
             bytes[2 * i + 1] = nets[i] + 32768 & 255;
         }
-        feed(x, bytes);
+        Cities.feed(x, bytes);
         int answer = x.settled(nets.length, what);
         due("21 empty then", x.count(6), 0);
         return answer;
@@ -677,7 +622,7 @@ public final class PromiseTest {
 
     private static int joy(int much, int what, int... bytes) {
         StruckBeats x = new StruckBeats();
-        feed(x, bytes);
+        Cities.feed(x, bytes);
         int answer = x.joy(bytes.length / 2, much, what);
         due("22 empty then", x.count(6), 0);
         return answer;
@@ -709,7 +654,7 @@ public final class PromiseTest {
 
     private static int run(int what, int... bytes) {
         StruckBeats x = new StruckBeats();
-        feed(x, bytes);
+        Cities.feed(x, bytes);
         return x.run(bytes.length, what);
     }
 
@@ -734,7 +679,7 @@ public final class PromiseTest {
 
     private static int table(int what, int... bytes) {
         StruckBeats x = new StruckBeats();
-        feed(x, bytes);
+        Cities.feed(x, bytes);
         return x.table(bytes.length, what);
     }
 
@@ -770,7 +715,7 @@ public final class PromiseTest {
 
     private static int atOnce(int upTo, int what, int... bytes) {
         StruckBeats x = new StruckBeats();
-        feed(x, bytes);
+        Cities.feed(x, bytes);
         return x.atOnce(upTo, what);
     }
 
@@ -806,7 +751,7 @@ public final class PromiseTest {
             bytes[2 * i] = ticks[i] >> 8;
             bytes[2 * i + 1] = ticks[i] & 255;
         }
-        feed(x, bytes);
+        Cities.feed(x, bytes);
         return x.pulse(ticks.length, what);
     }
 
@@ -829,7 +774,7 @@ public final class PromiseTest {
 
     private static int stairs(int what, int... bytes) {
         StruckBeats x = new StruckBeats();
-        feed(x, bytes);
+        Cities.feed(x, bytes);
         return x.stairs(bytes.length, what);
     }
 
@@ -856,7 +801,7 @@ public final class PromiseTest {
 
     private static int bells(int number, int... bytes) {
         StruckBeats x = new StruckBeats();
-        feed(x, bytes);
+        Cities.feed(x, bytes);
         return x.bells(bytes.length, number);
     }
 
@@ -882,29 +827,29 @@ public final class PromiseTest {
     }
 
     private static void promise29Seed() {
-        StruckBeats x = city(1, 1000000);
+        StruckBeats x = Cities.of(1, 1000000);
         due("29", x.seed(65535), true);
         due("29 X", x.count(7), 65535);
         due("29 no such number", x.seed(65536), false);
         due("29 no such number", x.seed(-1), false);
         due("29 X stays", x.count(7), 65535);
         x.days(1);
-        due("29 drawn from it", x.count(7), draws(65535, 24));
+        due("29 drawn from it", x.count(7), Cities.drawn(65535, 24));
         due("29 0", x.seed(0), true);
         due("29 0", x.count(7), 0);
     }
 
     private static void promise30And31Kept() {
-        StruckBeats x = city(2, 200000);
-        ledger(x, "a>b100@5/10");
-        law(x, "x(k=1&t=2)");
+        StruckBeats x = Cities.of(2, 200000);
+        Cities.ledger(x, "a>b100@5/10");
+        Cities.law(x, "x(k=1&t=2)");
         x.days(1);
         due("30 the day", x.keep(), 1);
         int drawn = x.count(7);
         x.days(2);
         x.person(5, 9, 9);
-        routine(x, 0, "7r");
-        law(x, "p9(1=1)");
+        Cities.routine(x, 0, "7r");
+        Cities.law(x, "p9(1=1)");
         x.feed(0, 0, 0, 0, 0);
         due("31 the parish has some", x.count(3) > 0, true);
         due("31", x.undo(), true);
@@ -929,19 +874,19 @@ public final class PromiseTest {
     }
 
     private static void promise32Check() {
-        StruckBeats x = city(3, 100000);
-        law(x, "x(k=1)");
+        StruckBeats x = Cities.of(3, 100000);
+        Cities.law(x, "x(k=1)");
         x.days(1);
-        feed(x, 1, 0, 1, 255, 255, 255, 255, 255, 255, 255, 255, 255, 255, 255, 255, 255);
+        Cities.feed(x, 1, 0, 1, 255, 255, 255, 255, 255, 255, 255, 255, 255, 255, 255, 255, 255);
         due("32 all", x.check(16), -1);
         due("32 empty then", x.count(6), 0);
-        feed(x, 1, 1, 0);
+        Cities.feed(x, 1, 1, 0);
         due("32 the first", x.check(3), 1);
-        feed(x, 1, 0, 2);
+        Cities.feed(x, 1, 0, 2);
         due("32 the first", x.check(3), 2);
-        feed(x, 1, 0, 2);
+        Cities.feed(x, 1, 0, 2);
         due("32 so many alone", x.check(2), -1);
-        feed(x, 1, 0, 1, 0);
+        Cities.feed(x, 1, 0, 1, 0);
         due("32 not told", x.check(4), 3);
         due("32 not so many", x.check(1), -2);
         due("32 none", x.check(0), -1);
@@ -961,8 +906,8 @@ public final class PromiseTest {
         due("33 told", x.count(1), 148);
         due("33 living", x.count(2), 148);
         due("33 the lowest of like ones", x.count(8), 4);
-        ledger(x, "c>e1;e>c1");
-        law(x, "x(k=4);p1(1=1)");
+        Cities.ledger(x, "c>e1;e>c1");
+        Cities.law(x, "x(k=4);p1(1=1)");
         x.feed(0, 0, 0, 0, 0);
         due("33 loans", x.count(4), 2);
         due("33 rules", x.count(5), 2);
@@ -972,10 +917,10 @@ public final class PromiseTest {
         due("33 living", x.count(2), 132);
         due("33 told", x.count(1), 148);
         due("33 parish", x.count(3), 300000);
-        due("33 X", x.count(7), draws(1, 3 + 47 * 2));
+        due("33 X", x.count(7), Cities.drawn(1, 3 + 47 * 2));
         due("33 most", x.count(8), 7);
         x.check(0);
-        law(x, "x(1=1)");
+        Cities.law(x, "x(1=1)");
         x.days(1);
         due("33 the dead have 0", x.count(8), 2);
         due("33 none", x.count(9), -1);

@@ -72,7 +72,7 @@ public final class SturdyTest {
     private int text() {
         String text = TEXTS[random.nextInt(TEXTS.length)];
         x.check(0);
-        PromiseFeed.feed(x, text);
+        Cities.feed(x, text);
         int n = text.length() - (random.nextInt(3) == 0 ? random.nextInt(text.length()) : 0);
         switch (random.nextInt(4)) {
             case 0: return x.routine(random.nextInt(16), n);
@@ -90,7 +90,7 @@ public final class SturdyTest {
             text.append(signs.charAt(random.nextInt(signs.length())));
         }
         x.check(0);
-        PromiseFeed.feed(x, text.toString());
+        Cities.feed(x, text.toString());
         switch (random.nextInt(3)) {
             case 0: return x.routine(random.nextInt(16), Math.min(60, length));
             case 1: return x.ledger(length);
@@ -127,19 +127,6 @@ public final class SturdyTest {
             if (answer == -1 && which < 32 && which != 30 && !before.equals(seen())) {
                 wrong++;
                 System.out.println("call " + which + " was refused, and something is changed");
-            }
-        }
-    }
-
-    /** Twenty bytes a call, 0 behind the last. */
-    private static final class PromiseFeed {
-        static void feed(StruckBeats x, String text) {
-            for (int at = 0; at < text.length(); at += 20) {
-                int[] w = new int[5];
-                for (int i = 0; i < 20; i++) {
-                    w[i / 4] = w[i / 4] << 8 | (at + i < text.length() ? text.charAt(at + i) : 0);
-                }
-                x.feed(w[0], w[1], w[2], w[3], w[4]);
             }
         }
     }
