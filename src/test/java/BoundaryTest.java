@@ -4,6 +4,7 @@ import java.nio.file.Path;
 public final class BoundaryTest {
     public static void main(String[] args) throws Exception {
         Bounds.read(Path.of("../shared/DOC.md"));
+        WhatItIs.all();
         BoundsOfTexts.all();
         BoundsOfDays.all();
         BoundsOfSums.all();

@@ -21,7 +21,7 @@ final class Bounds {
     private Bounds() {
     }
 
-    /** The terms and the promises, each section as one line. */
+    /** The document, each section of it as one line. */
     static void read(Path document) throws IOException {
         for (String part : Files.readString(document).split("\n## ")) {
             String name = part.substring(0, part.indexOf('\n')).replaceFirst(":.*", "");
@@ -96,12 +96,12 @@ final class Bounds {
         due(Cities.seen(one).equals(Cities.seen(other)), true);
     }
 
-    /** How many answers were wrong, and how many words of the terms and promises are in no sentence that was asked for. */
+    /** How many answers were wrong, and how many words of the document that promise something are in no sentence that was asked for. */
     static int report() {
         endSentence();
         int unasked = 0;
         for (String section : SECTIONS.keySet()) {
-            if (section.equals("Terms") || section.startsWith("Promise")) {
+            if (section.equals("What it is") || section.equals("Terms") || section.startsWith("Promise")) {
                 unasked += unasked(section);
             }
         }
@@ -115,7 +115,7 @@ final class Bounds {
         boolean[] quoted = QUOTED.get(section);
         int found = 0;
         Matcher m = WORD.matcher(text);
-        for (int from = section.equals("Terms") ? 0 : text.indexOf("`:"); m.find(from); from = m.end()) {
+        for (int from = section.startsWith("Promise") ? text.indexOf("`:") : 0; m.find(from); from = m.end()) {
             if (!quoted[m.start()] || !quoted[m.end() - 1]) {
                 found++;
                 System.out.println(section + ": no test asks for " + m.group() + ", at " + m.start());

@@ -6,7 +6,7 @@ import java.util.Random;
 /** Long runs of drawn calls, each answer held against a second program of the same document. */
 public final class OracleTest {
     private static final int RUNS = 400;
-    private static final int CALLS = 500;
+    private static final int CALLS = 512;
 
     /** A fault of a text, which ends the reading of it. */
     private static final class Fault extends RuntimeException {
@@ -1461,7 +1461,7 @@ public final class OracleTest {
                 same("person(" + p + ", " + beats + ", 0)", x.person(p, beats, 0) ? 1 : 0, o.person(p, beats, 0));
             }
         }
-        // Beyond 512 calls the answers are free, those of count below among them.
+        // Beyond 512 calls the answers are free: one piece here has no more than 30, and counts fill up the rest.
         while (calls.size() < CALLS - 30 && wrong == 0) {
             int kind = random.nextInt(20);
             if (kind < 6) {
@@ -1478,7 +1478,7 @@ public final class OracleTest {
                 same("count(" + what + ")", x.count(what), o.count(what));
             }
         }
-        for (int what = 0; what <= 8; what++) {
+        for (int what = 0; calls.size() < CALLS && wrong == 0; what = (what + 1) % 9) {
             same("count(" + what + ")", x.count(what), o.count(what));
         }
         return wrong;

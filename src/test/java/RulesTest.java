@@ -17,12 +17,6 @@ import java.util.regex.Pattern;
 
 /** The face of the class, and the rules of LANGUAGE.md as far as the text and the compiled class show them. */
 public final class RulesTest {
-    private static final String FACE = "boolean person(int,int,int);int feed(int,int,int,int,int);int law(int);"
-        + "int routine(int,int);int ledger(int);int days(int);int tried(int,int);int personIs(int,int);int loanIs(int,int);"
-        + "int dies(int,int);int costs(int,int);int paidOff(int);int dueAfter(int,int);int hiccups(int,int);int left(int);"
-        + "int longest();int stillest(int);int alike(int,int,int);int rings(int);int settled(int,int);int joy(int,int,int);"
-        + "int run(int,int);int table(int,int);int atOnce(int,int);int pulse(int,int);int stairs(int,int);int bells(int,int);"
-        + "boolean seed(int);int keep();boolean undo();int check(int);int count(int)";
     private static final String[] BARRED = {
         "\\bthrow\\b", "\\bthrows\\b", "\\btry\\b", "\\bcatch\\b", "\\bsynchronized\\b", "\\bassert\\b", "->", "::",
         "\\bimport\\b", "\\bpackage\\b", "static\\s*\\{", "Exact\\b", "\\bthread\\b", "\\bSystem\\.(?!arraycopy)",
@@ -46,9 +40,21 @@ public final class RulesTest {
         return text.append(')').toString();
     }
 
-    private static void face() throws ReflectiveOperationException {
+    /** The methods as the document writes them, without the names of what they take. */
+    private static Set<String> dueFace() throws IOException {
+        String document = Files.readString(Path.of("../shared/DOC.md"));
+        Set<String> due = new TreeSet<>();
+        Matcher m = Pattern.compile("    public (\\w+ \\w+\\([^)]*\\));\n").matcher(document);
+        while (m.find()) {
+            due.add(m.group(1).replaceAll(" \\w+([,)])", "$1").replace(", ", ","));
+        }
+        hold(due.size() == 32, "1: the document's face has 32 methods: " + due);
+        return due;
+    }
+
+    private static void face() throws IOException, ReflectiveOperationException {
         Class<?> c = StruckBeats.class;
-        Set<String> due = new TreeSet<>(List.of(FACE.split(";")));
+        Set<String> due = dueFace();
         Set<String> found = new TreeSet<>();
         Set<String> names = new TreeSet<>();
         List<Member> members = new ArrayList<>(List.of(c.getDeclaredFields()));
